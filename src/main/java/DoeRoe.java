@@ -13,6 +13,7 @@ public final class DoeRoe {
   private static final int FACTS = 8;
   private static final int PAIRS = 4;
   private static final int ALL_FACTS = 255;
+  private static final int EVEN_FACTS = 85;
   private static final int KINDS = 6;
   private static final int MOST_FICTIONS = 6;
   private static final int FICTION_SETS = 64;
@@ -250,7 +251,7 @@ public final class DoeRoe {
     int given = NONE;
     for (int set = 0; set < FICTION_SETS; set++) {
       if ((set & ~matter.pleaded) == 0 && fewer(set, given)
-          && pairsIn(matter.factsWith(matter.pleaded & ~set)) == 0) {
+          && !contradictIn(matter.factsWith(matter.pleaded & ~set))) {
         given = set;
       }
     }
@@ -367,7 +368,7 @@ public final class DoeRoe {
     int inAll = ALL_FACTS;
     int inSome = 0;
     for (int facts = 0; facts <= ALL_FACTS; facts++) {
-      if (pairsIn(facts) == 0 && matter.fitsHearings(facts)) {
+      if (!contradictIn(facts) && matter.fitsHearings(facts)) {
         sets++;
         inAll &= facts;
         inSome |= facts;
@@ -554,6 +555,10 @@ public final class DoeRoe {
 
   private static boolean fewer(int set, int given) {
     return given == NONE || Integer.bitCount(set) < Integer.bitCount(given);
+  }
+
+  private static boolean contradictIn(int facts) {
+    return (facts & facts >> 1 & EVEN_FACTS) != 0;
   }
 
   private static int pairsIn(int facts) {

@@ -163,6 +163,14 @@ public final class BookTest {
     check.due("FEE of court 1", x.least(1, 1, -1), 1);
     check.due("count(7) behind read", x.count(7), whole.length());
     check.due("read again", x.read(), 5);
+    check.due("count(0) behind read again", x.count(0), 2);
+    check.due("count(1) behind read again", x.count(1), 2);
+    Check.type(x, "book;fiction 0 0 0;court 0;x");
+    check.due("a fault", x.read(), -37);
+    Check.type(x, "book 3;court 0;");
+    check.due("read behind a fault", x.read(), 2);
+    check.due("count(0) behind a fault", x.count(0), 0);
+    check.due("count(1) behind a fault", x.count(1), 1);
   }
 
   private static void readFaults() {
@@ -173,7 +181,17 @@ public final class BookTest {
     reads("book 1", -16);
     reads("boo", -10);
     reads(" books;", -11);
+    reads("bookz;", -10);
+    reads("abook;", -10);
+    reads("cook;", -10);
+    reads("bool;", -10);
+    reads("book 1 x;", -17);
+    reads("book;fiction 1 x", -25);
     reads("Book;", -10);
+    reads("book`", -14);
+    reads("book{", -14);
+    reads("book/", -14);
+    reads("book:", -14);
     reads("bookA;", -14);
     reads(";book;", -10);
     reads("7 book;", -10);

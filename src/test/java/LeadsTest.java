@@ -9,6 +9,7 @@ public final class LeadsTest {
     leastFewest();
     leastCheapest();
     leastFirstRow();
+    leastOfSix();
     leastFromNow();
     leastRefused();
     ever();
@@ -130,6 +131,20 @@ public final class LeadsTest {
     row(x, 0, 1, 1);
   }
 
+  private static void leastOfSix() {
+    DoeRoe x = new DoeRoe();
+    x.court(63, 1);
+    int[] needs = {62, 60, 56, 48, 32, 0};
+    for (int f = 0; f < 6; f++) {
+      x.fiction(PLAIN, needs[f], f, 2);
+    }
+    check.due("a row of six", x.least(0, 0, -1), 6);
+    row(x, 0, 0, 5, 4, 3, 2, 1, 0);
+    check.due("what six cost", x.least(0, 1, -1), 13);
+    row(x, 0, 1, 5, 4, 3, 2, 1, 0);
+    check.due("ever() by six", x.ever(), 63);
+  }
+
   private static void leastFromNow() {
     DoeRoe x = new DoeRoe();
     x.court(128, 0);
@@ -182,6 +197,10 @@ public final class LeadsTest {
     check.due("FORCE at first", x.ever(), 95);
     x.plead(1);
     check.due("FORCE too late", x.ever(), 31);
+    x.book(0);
+    x.fiction(FORCE, 128, 3, 0);
+    x.fiction(SHIP, 128, 6, 0);
+    check.due("one or the other, never both", x.ever(), 72);
   }
 
   private static void contradict() {
@@ -218,6 +237,20 @@ public final class LeadsTest {
     x.plead(0);
     x.plead(5);
     check.due("the fewest", x.giveUp(), 1 + 8);
+    x.book(0);
+    x.fiction(PLAIN, 0, 7, 0);
+    x.fiction(PLAIN, 0, 7, 0);
+    x.fiction(PLAIN, 0, 6, 0);
+    x.plead(0);
+    x.plead(1);
+    x.plead(2);
+    check.due("the fewest, though no least number", x.giveUp(), 4);
+    x.book(85);
+    for (int f = 0; f < 6; f++) {
+      x.fiction(PLAIN, 0, 1 + 2 * (f % 4), 0);
+      x.plead(f);
+    }
+    check.due("all six", x.giveUp(), 63);
     x.book(1);
     x.fiction(PLAIN, 0, 0, 0);
     x.fiction(PLAIN, 0, 1, 0);
@@ -265,6 +298,13 @@ public final class LeadsTest {
     x.plead(0);
     check.due("fees(0), more courts hear it", x.fees(0), 3);
     check.due("fees(1), more courts hear it", x.fees(1), 0);
+    x.book(0);
+    x.court(0, 4);
+    x.court(0, 4);
+    check.due("fees(0), the first of like ones", x.fees(0), 0);
+    check.due("fees(1), the first of like ones", x.fees(1), 4);
+    x.court(0, 3);
+    check.due("fees(0), the last", x.fees(0), 2);
     check.status(x, "behind fees", 2, 0, 0);
   }
 

@@ -41,8 +41,10 @@ public final class SuitTest {
     check.due("count(6)", x.count(6), 0);
     check.due("suit() again", x.suit(), 0);
     x.plead(0);
+    check.due("PAID", x.now(3), 3);
     x.note(0, 1, 1);
     x.suit();
+    check.due("PAID behind suit", x.now(3), 0);
     check.due("count(4) behind suit", x.count(4), 1);
     check.due("undo() behind suit", x.undo(), DoeRoe.NO);
   }
@@ -195,6 +197,31 @@ public final class SuitTest {
     }
     check.due("the first ones stay", x.now(1), 3);
     check.due("undo() of a ninth", x.undo(), DoeRoe.NO);
+    undoTheLastEight();
+  }
+
+  private static void undoTheLastEight() {
+    DoeRoe x = new DoeRoe();
+    x.fiction(PLAIN, 0, 0, 1);
+    x.fiction(PLAIN, 0, 1, 1);
+    x.fiction(PERSONS, 3, 2, 8);
+    x.plead(0);
+    x.plead(1);
+    for (int k = 0; k < 4; k++) {
+      check.due("plead(2)", x.plead(2), 4);
+      check.due("deny(2)", x.deny(2), 1);
+    }
+    check.due("count(6)", x.count(6), 8);
+    for (int k = 3; k >= 0; k--) {
+      check.due("undo() of a denial", x.undo(), 3 + k);
+      check.due("PLEADED ahead of it", x.now(1), 7);
+      check.due("PAID ahead of it", x.now(3), 6 + 4 * k);
+      check.due("undo() of plead", x.undo(), 2 + k);
+      check.due("PLEADED ahead of that", x.now(1), 3);
+      check.due("PAID ahead of that", x.now(3), 2 + 4 * k);
+    }
+    check.due("undo() of a ninth", x.undo(), DoeRoe.NO);
+    check.due("STEPS stay", x.now(2), 2);
   }
 
   private static DoeRoe pleadedOne() {

@@ -11,6 +11,7 @@ public final class TruthTest {
     look();
     truth();
     odds();
+    oddsOfMany();
     oddsSharedFact();
     terms();
     termsRefused();
@@ -190,6 +191,33 @@ public final class TruthTest {
     check.status(x, "behind odds", 5, 0, 0);
   }
 
+  private static void oddsOfMany() {
+    DoeRoe x = new DoeRoe();
+    x.fiction(LETTER, 0, 0, 0);
+    x.fiction(PLAIN, 0, 1, 0);
+    x.fiction(PERSONS, 3, 7, 0);
+    x.fiction(PERSONS, 3, 7, 0);
+    x.fiction(PERSONS, 3, 7, 0);
+    x.fiction(PERSONS, 3, 7, 0);
+    x.court(128, 0);
+    for (int f = 0; f < 6; f++) {
+      x.plead(f);
+    }
+    oddsAre(x, 0, 1, 9999, 10000);
+    oddsAre(x, 0, 9, 10000 - 6561, 10000);
+    // One that needs what was denied stays PLEADED, and may be denied itself.
+    x.book(0);
+    x.fiction(SHIP, 224, 5, 0);
+    x.fiction(TIME, 32, 7, 0);
+    x.plead(0);
+    x.plead(1);
+    x.deny(0);
+    x.court(0, 0);
+    oddsAre(x, 0, 7, 1, 1);
+    x.court(128, 0);
+    oddsAre(x, 1, 7, 3, 10);
+  }
+
   private static void oddsSharedFact() {
     DoeRoe x = new DoeRoe();
     x.court(128, 0);
@@ -245,7 +273,23 @@ public final class TruthTest {
     check.due("terms(1, 1), it is denied", x.terms(1, 1), 0);
     x.suit();
     check.due("terms(1, 1), it is PLEADED at STEP 0", x.terms(1, 1), 1);
-    check.due("terms(1, 60), denied, and no more PLEADED behind STEP 0", x.terms(1, 60), 0);
+    // 2 is drawn again as the 21st, 30th, 31st: denied, and no more to be PLEADED behind STEP 0.
+    check.due("terms(1, 20)", x.terms(1, 20), 1);
+    check.due("terms(1, 21)", x.terms(1, 21), 0);
+    check.due("terms(1, 30)", x.terms(1, 30), 0);
+    check.due("terms(1, 31)", x.terms(1, 31), 0);
+    // With TIME, which needs an odd STEP, a denial is no STEP: 2, 4, 3, 1, 1, 5 are drawn.
+    x.book(0);
+    for (int f = 0; f < 6; f++) {
+      x.fiction(f == 4 || f == 5 ? TIME : PLAIN, f == 1 ? 64 : 0, f, 0);
+    }
+    x.court(16, 0);
+    x.court(32, 0);
+    check.due("terms(1, 1), at STEP 0", x.terms(1, 1), 0);
+    check.due("terms(1, 2), TIME at STEP 1", x.terms(1, 2), 1);
+    check.due("terms(1, 6), TIME at STEP 3", x.terms(1, 6), 2);
+    x.plead(0);
+    check.due("terms(1, 2), TIME at STEP 2", x.terms(1, 2), 0);
   }
 
   private static void termsRefused() {
