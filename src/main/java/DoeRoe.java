@@ -25,7 +25,6 @@ public final class DoeRoe {
   private static final int MOST_HEARD = 6;
   private static final int MOST_UNDO = 8;
   private static final int MOST_BYTES = 150;
-  private static final int MOST_ITEMS = 1 + MOST_FICTIONS + MOST_COURTS;
   private static final int LAST_LOOK_STEP = 9;
   private static final int MOST_SEED = 999999;
   private static final int MOST_TERMS = 60;
@@ -1068,6 +1067,13 @@ public final class DoeRoe {
     private int place;
     private int number;
     private int next;
+    // The ITEM at hand: its word (NONE: none has begun), how many numbers it has, what they told.
+    private int word;
+    private int numbers;
+    private int kind;
+    private int gives;
+    private int fee;
+    private int facts;
 
     BookText() {
       bytes = new int[MOST_BYTES];
@@ -1088,97 +1094,85 @@ public final class DoeRoe {
     int readInto(Matter draft) {
       draft.begin(0);
       next = 0;
-      advance();
-      for (int items = 0; items <= MOST_ITEMS; items++) {
-        if (items > 0 && token == END) {
-          return items;
-        }
-        if (!takeItem(draft, items == 0)) {
+      word = NONE;
+      int items = 0;
+      // A TOKEN has a byte at least, so that behind the most bytes there is only the end.
+      for (int tokens = 0; tokens <= MOST_BYTES; tokens++) {
+        advance();
+        if (token == END || !takeToken(draft, items == 0)) {
           break;
         }
-      }
-      return FAULT_BASE - place;
-    }
-
-    private boolean takeItem(Matter draft, boolean first) {
-      int word = token;
-      if (!mayBegin(word, draft, first)) {
-        return false;
-      }
-      advance();
-      switch (word) {
-        case WORD_FICTION:
-          return takeFiction(draft);
-        case WORD_COURT:
-          return takeCourt(draft);
-        default:
-          return takeBook(draft);
-      }
-    }
-
-    private static boolean mayBegin(int word, Matter draft, boolean first) {
-      if (first) {
-        return word == WORD_BOOK;
-      }
-      return word == WORD_FICTION && !draft.fictions.isFull()
-          || word == WORD_COURT && !draft.courts.isFull();
-    }
-
-    private boolean takeBook(Matter draft) {
-      int facts = takeFacts();
-      if (facts == NONE) {
-        return false;
-      }
-      draft.trueFacts = facts;
-      return true;
-    }
-
-    private boolean takeFiction(Matter draft) {
-      int kind = takeNumber(KINDS - 1);
-      int gives = kind == NONE ? NONE : takeNumber(FACTS - 1);
-      int fee = gives == NONE ? NONE : takeNumber(MOST_FEE);
-      int needs = fee == NONE ? NONE : takeFacts();
-      if (needs == NONE) {
-        return false;
-      }
-      draft.fictions.add(kind, needs, gives, fee);
-      return true;
-    }
-
-    private boolean takeCourt(Matter draft) {
-      int fee = takeNumber(MOST_FEE);
-      int needs = fee == NONE ? NONE : takeFacts();
-      if (needs == NONE) {
-        return false;
-      }
-      draft.courts.add(needs, fee, 0, 0);
-      return true;
-    }
-
-    /** The FACTS up to the ; that ends the ITEM, and that one; NONE: another TOKEN is at hand. */
-    private int takeFacts() {
-      int facts = 0;
-      for (int i = 0; i <= MOST_BYTES; i++) {
         if (token == STOP) {
-          advance();
-          return facts;
+          items++;
         }
-        int fact = takeNumber(FACTS - 1);
-        if (fact == NONE) {
-          return NONE;
-        }
-        facts |= 1 << fact;
       }
-      return NONE;
+      boolean whole = token == END && word == NONE && items > 0;
+      return whole ? items : FAULT_BASE - place;
     }
 
-    private int takeNumber(int most) {
-      if (token != NUMBER || number > most) {
-        return NONE;
+    private boolean takeToken(Matter draft, boolean first) {
+      if (word == NONE) {
+        return beginItem(draft, first);
       }
-      int taken = number;
-      advance();
-      return taken;
+      if (token == STOP && numbers >= numbersAhead()) {
+        endItem(draft);
+        return true;
+      }
+      if (token == NUMBER && number <= mostHere()) {
+        takeNumber();
+        return true;
+      }
+      return false;
+    }
+
+    private boolean beginItem(Matter draft, boolean first) {
+      boolean stands = first ? token == WORD_BOOK
+          : token == WORD_FICTION && !draft.fictions.isFull()
+          || token == WORD_COURT && !draft.courts.isFull();
+      if (stands) {
+        word = token;
+        numbers = 0;
+        facts = 0;
+      }
+      return stands;
+    }
+
+    /** How many numbers an ITEM of this word has ahead of its FACTS. */
+    private int numbersAhead() {
+      if (word == WORD_FICTION) {
+        return 3;
+      }
+      return word == WORD_COURT ? 1 : 0;
+    }
+
+    private int mostHere() {
+      if (word == WORD_FICTION && numbers == 0) {
+        return KINDS - 1;
+      }
+      // A FEE is the last of those that stand ahead, whatever the word is.
+      return numbers == numbersAhead() - 1 ? MOST_FEE : FACTS - 1;
+    }
+
+    private void takeNumber() {
+      if (numbers >= numbersAhead()) {
+        facts |= 1 << number;
+      } else {
+        kind = gives;
+        gives = fee;
+        fee = number;
+      }
+      numbers++;
+    }
+
+    private void endItem(Matter draft) {
+      if (word == WORD_FICTION) {
+        draft.fictions.add(kind, facts, gives, fee);
+      } else if (word == WORD_COURT) {
+        draft.courts.add(facts, fee, 0, 0);
+      } else {
+        draft.trueFacts = facts;
+      }
+      word = NONE;
     }
 
     private void advance() {
