@@ -270,6 +270,11 @@ public final class LeadsEdgesTest {
     x.book(128);
     check.due("ever(), no FICTION", x.ever(), 128);
     for (int f = 0; f < 6; f++) {
+      x.fiction(PLAIN, f == 0 ? 0 : 64 >> f << 2, 6 - f, 0);
+      check.due("ever() of " + (f + 1), x.ever(), 128 | 127 >> (6 - f) << (6 - f));
+    }
+    x.book(128);
+    for (int f = 0; f < 6; f++) {
       x.fiction(PLAIN, 1 << (7 - f), 6 - f, 0);
     }
     check.due("ever() by a row of six", x.ever(), 254);

@@ -3,7 +3,7 @@ import java.util.List;
 
 /**
  * All that can be seen of an object but STATUS: its answers, what may be undone, its TEXT, its
- * IMAGES. The object is used up by it (some 260 calls), so it is for one of two that were made alike.
+ * IMAGES. The object is used up by it (some 170 calls), so it is for one of two that were made alike.
  */
 final class Sight {
   private final DoeRoe x;

@@ -24,6 +24,7 @@ public final class TruthEdgesTest {
     oddsOfThoseThatWin();
     termsByEverySeed();
     termsOfFewFictions();
+    termsOfEveryKind();
     termsFromTheSuit();
     termsKeepPast();
     check.end("TruthEdgesTest");
@@ -424,6 +425,34 @@ public final class TruthEdgesTest {
     for (int fictions = 0; fictions < 6; fictions++) {
       for (int seed : new int[] {0, 1, 2, 3, 4, 5, 499999, 999998, 999999}) {
         terms(fictions, seed);
+      }
+    }
+  }
+
+  /** A STEP is one that is PLEADED: not a denial, nor one that may not be, nor one that is not. */
+  private static void termsOfEveryKind() {
+    for (int way = 0; way < 60; way++) {
+      DoeRoe x = new DoeRoe();
+      PlainModel y = new PlainModel();
+      for (int f = 0; f < 1 + way % 6; f++) {
+        int kind = way < 12 ? TIME : (way + 5 * f) % 6;
+        int needs = way < 12 ? 0 : 1 << (way + f) % 8 & 85 | (f == 2 ? 7 : 0);
+        x.fiction(kind, needs, (way / 6 + f) % 8, 1);
+        y.fiction(kind, needs, (way / 6 + f) % 8, 1);
+      }
+      if (way % 2 == 1) {
+        x.fiction(PLAIN, 0, 7, 0);
+        y.fiction(PLAIN, 0, 7, 0);
+      }
+      for (int c = 0; c < 4; c++) {
+        x.court(1 << (way / 6 + c) % 8, 0);
+        y.court(1 << (way / 6 + c) % 8, 0);
+      }
+      for (int n = 0; n <= 60; n++) {
+        for (int seed : new int[] {0, 1, 500000 + way, 999999 - n, 999999}) {
+          check.due("way " + way + ": terms(" + seed + ", " + n + ")", x.terms(seed, n),
+              y.terms(seed, n));
+        }
       }
     }
   }
