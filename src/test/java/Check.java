@@ -1,7 +1,26 @@
 /** What every test uses: it tells each answer that is not the one due, and ends with 1 if one was. */
 final class Check {
+  // A test takes some seconds; one that goes on so long has met a call that does not end.
+  private static final long MOST_MILLIS = 300000;
+
   private int wrong = 0;
   private int looked = 0;
+
+  Check() {
+    Thread watch = new Thread(Check::endIfTooLong);
+    watch.setDaemon(true);
+    watch.start();
+  }
+
+  private static void endIfTooLong() {
+    try {
+      Thread.sleep(MOST_MILLIS);
+    } catch (InterruptedException e) {
+      return;
+    }
+    System.out.println("the test does not end");
+    Runtime.getRuntime().halt(1);
+  }
 
   void due(String call, long got, long want) {
     looked++;

@@ -3,12 +3,21 @@ import java.lang.reflect.Field;
 import java.lang.reflect.Member;
 import java.lang.reflect.Method;
 import java.lang.reflect.Modifier;
+import java.nio.file.Files;
+import java.nio.file.Path;
+import java.util.List;
 import java.util.Set;
 import java.util.TreeSet;
+import java.util.regex.Matcher;
+import java.util.regex.Pattern;
 
-/** The public face, and that no number makes a call throw. */
+/** The public face, as the document has it, and that no number makes a call throw. */
 public final class FaceTest {
   private static final Check check = new Check();
+  private static final Pattern METHOD = Pattern.compile(" +public ((?:int|long) \\w+)\\((.*)\\);");
+  private static final Pattern PROMISE = Pattern.compile("## Promise (\\d+): .*");
+  private static final Pattern PROMISED = Pattern.compile("`((?:int|long) \\w+)\\((.*?)\\)`: .*");
+  private static final Path DOCUMENT = Path.of("../shared/DOC.md");
   private static final String[] FACE = {"int book(int)", "int fiction(int,int,int,int)",
       "int court(int,int)", "int type(int)", "int clear()", "int read()", "int suit()",
       "int plead(int)", "int deny(int)", "int undo()", "int of(int,int)", "int now(int)",
@@ -23,6 +32,7 @@ public final class FaceTest {
 
   public static void main(String[] args) throws Exception {
     constants();
+    document();
     members();
     nested();
     everyEdge();
@@ -38,6 +48,51 @@ public final class FaceTest {
 
   private static boolean isPrivate(Member m) {
     return Modifier.isPrivate(m.getModifiers());
+  }
+
+  private static String types(String parameters) {
+    return parameters.replaceAll("(int|long) \\w+", "$1").replace(", ", ",");
+  }
+
+  /** The methods between the document's "public final class DoeRoe {" and its end. */
+  private static Set<String> told(List<String> document) {
+    Set<String> methods = new TreeSet<>();
+    boolean face = false;
+    for (String line : document) {
+      Matcher m = METHOD.matcher(line);
+      face = line.equals("public final class DoeRoe {") || face && !line.equals("}");
+      if (face && m.matches()) {
+        methods.add(m.group(1) + "(" + types(m.group(2)) + ")");
+      }
+    }
+    return methods;
+  }
+
+  /** Each promise of a call stands by the call as the face has it. */
+  private static void promises(List<String> document, Set<String> face) {
+    int number = 0;
+    for (String line : document) {
+      Matcher heading = PROMISE.matcher(line);
+      Matcher call = PROMISED.matcher(line);
+      if (heading.matches()) {
+        number++;
+        check.due("the number of " + line, Integer.parseInt(heading.group(1)), number);
+      } else if (call.matches()) {
+        check.isTrue("in the face: " + line,
+            face.contains(call.group(1) + "(" + types(call.group(2)) + ")"));
+      }
+    }
+    check.due("promises", number, 36);
+  }
+
+  private static void document() throws Exception {
+    // The face stands above, too, so that it is looked at where only ../shared/tests can be seen.
+    if (Files.exists(DOCUMENT)) {
+      List<String> document = Files.readAllLines(DOCUMENT);
+      Set<String> face = told(document);
+      check.isTrue("the document's face is " + face, face.equals(Set.of(FACE)));
+      promises(document, face);
+    }
   }
 
   private static void members() {
